@@ -17,6 +17,14 @@ public final class BackByNoonOnMonday {
     private static final int EXTRA = MOST_SUITS;
     private static final int NONE = 9;
     private static final int KINDS = 8;
+    private static final int SUIT = 0;
+    private static final int BLACK = 1;
+    private static final int WIDE = 2;
+    private static final int MIXED = 3;
+    private static final int SILK = 4;
+    private static final int STRETCH = 5;
+    private static final int SHINY = 6;
+    private static final int VELVET = 7;
     private static final int MOST_FIGURE = 9;
     private static final int MOST_SIZE = 20;
     private static final int MOST_GROUP = 3;
@@ -59,7 +67,7 @@ public final class BackByNoonOnMonday {
     private final Shelf[] shelves = new Shelf[SHELVES];
     private final Shelf noShelf = new Shelf();
     private final Suit[] bought = new Suit[KINDS];
-    private final Suit plainest = new Suit(0);
+    private final Suit plainest = new Suit(SUIT, 0);
     private final Fitting fitting = new Fitting();
     private final int[] ways = new int[MOST_BOOKINGS + 1];
     private final int[] toldHours = new int[MOST_SUITS];
@@ -70,7 +78,7 @@ public final class BackByNoonOnMonday {
             shelves[d] = new Shelf();
         }
         for (int k = 0; k < bought.length; k++) {
-            bought[k] = made(k, BOUGHT_FIGURE);
+            bought[k] = new Suit(k, BOUGHT_FIGURE);
         }
     }
 
@@ -97,15 +105,15 @@ public final class BackByNoonOnMonday {
         }
         Suit kind = shop.kindOf(s);
         switch (what) {
-            case 0: return kind.number();
+            case 0: return kind.number;
             case 1: return kind.figure;
             case 2: return at(shop.suitSize, s);
             case 3: return at(shop.worn, s);
             case 4: return at(shop.state, s);
-            case 5: return kind.price();
-            case 6: return kind.reach();
-            case 7: return kind.hours();
-            case 8: return kind.lasting();
+            case 5: return kind.price;
+            case 6: return kind.reach;
+            case 7: return kind.hours;
+            case 8: return kind.lasting;
             default: return NO_SUCH;
         }
     }
@@ -288,7 +296,7 @@ public final class BackByNoonOnMonday {
     public int shines() {
         int bits = 0;
         for (int s = 0; s < shop.suits; s++) {
-            bits |= at(shop.worn, s) > shop.kindOf(s).lasting() ? 1 << s : 0;
+            bits |= at(shop.worn, s) > shop.kindOf(s).lasting ? 1 << s : 0;
         }
         return bits;
     }
@@ -447,7 +455,7 @@ public final class BackByNoonOnMonday {
                 if (s == NONE) {
                     without++;
                 } else {
-                    pence += shop.kindOf(s).price();
+                    pence += shop.kindOf(s).price;
                     free &= ~(1 << s);
                 }
             }
@@ -499,7 +507,7 @@ public final class BackByNoonOnMonday {
         if (!isIn(k, 0, KINDS - 1) || !isIn(figure, 0, MOST_FIGURE)) {
             return NO_SUCH;
         }
-        shelfAt(d).hang(made(k, figure));
+        shelfAt(d).hang(new Suit(k, figure));
         return 0;
     }
 
@@ -569,7 +577,7 @@ public final class BackByNoonOnMonday {
         }
         Shelf shelf = shelfAt(d);
         int refused = shelf.refusal(KIND);
-        return refused != 0 ? refused : shelf.kind.worth();
+        return refused != 0 ? refused : shelf.kind.worth;
     }
 
     public int toss(int d) {
@@ -657,7 +665,7 @@ public final class BackByNoonOnMonday {
         if (k >= KINDS || size > MOST_SIZE) {
             return NO_SUCH;
         }
-        return to.addSuit(made(k, text.number(place + 2, 1)), size, text.number(place + 5, 2));
+        return to.addSuit(new Suit(k, text.number(place + 2, 1)), size, text.number(place + 5, 2));
     }
 
     private static int tellBooking(Shop to, Shelf text, int place) {
@@ -770,7 +778,7 @@ public final class BackByNoonOnMonday {
             int s = at(cleaningOrder, i);
             if (hasBit(bits, s)) {
                 found++;
-                hour += shop.kindOf(s).hours();
+                hour += shop.kindOf(s).hours;
                 if (hour > at(toldHours, s)) {
                     return false;
                 }
@@ -875,19 +883,6 @@ public final class BackByNoonOnMonday {
         }
     }
 
-    private static Suit made(int k, int figure) {
-        switch (k) {
-            case 1: return new Black(figure);
-            case 2: return new Wide(figure);
-            case 3: return new Mixed(figure);
-            case 4: return new Silk(figure);
-            case 5: return new Stretch(figure);
-            case 6: return new Shiny(figure);
-            case 7: return new Velvet(figure);
-            default: return new Suit(figure);
-        }
-    }
-
     private static int caught(Suit kind) {
         try {
             kind.fail();
@@ -897,224 +892,88 @@ public final class BackByNoonOnMonday {
         } catch (IllegalStateException blackFailed) {
             return 100 + kind.figure;
         } catch (UnsupportedOperationException silkFailed) {
-            return 200 + kind.worth();
+            return 200 + kind.worth;
         }
     }
 
     /** A KIND of suit with its FIGURE: what does not change, so that many may share one. */
-    private static class Suit {
+    private static final class Suit {
+        final int number;
         final int figure;
+        final int price;
+        final int reach;
+        final int hours;
+        final int lasting;
+        final int worth;
 
-        Suit(int figure) {
-            this.figure = figure;
-        }
-
-        int number() {
-            return 0;
-        }
-
-        int price() {
-            return 10 + figure;
-        }
-
-        int reach() {
-            return 1;
-        }
-
-        int hours() {
-            return 3;
-        }
-
-        int lasting() {
-            return 20 + figure;
-        }
-
-        int worth() {
-            return 4;
-        }
-
-        void fail() {
-            if (figure > 0) {
-                throw new IllegalArgumentException("a suit has failed");
+        /** First what a SUIT has, then what the kind right under it changes, then what is under that. */
+        Suit(int k, int itsFigure) {
+            int itsPrice = 10 + itsFigure;
+            int itsReach = 1;
+            int itsHours = 3;
+            int itsLasting = 20 + itsFigure;
+            int itsWorth = 4;
+            if (isBlack(k)) {
+                itsPrice += 5;
+                itsHours += 1;
+                itsWorth += itsFigure;
+            } else if (k == WIDE || k == STRETCH) {
+                itsPrice -= 2;
+                itsReach += 1;
+                itsWorth -= 2;
+            } else if (isMixed(k)) {
+                itsPrice /= 2;
+                itsHours -= 1;
+                itsWorth += 1;
             }
-        }
-    }
-
-    private static class Black extends Suit {
-        Black(int figure) {
-            super(figure);
-        }
-
-        int number() {
-            return 1;
-        }
-
-        int price() {
-            return super.price() + 5;
-        }
-
-        int hours() {
-            return super.hours() + 1;
-        }
-
-        int worth() {
-            return super.worth() + figure;
-        }
-
-        void fail() {
-            if (figure > 0) {
-                throw new IllegalStateException("a black one has failed");
+            if (k == SILK) {
+                itsPrice *= 2;
+                itsReach = 0;
+                itsHours *= 2;
+                itsLasting /= 2;
+                itsWorth *= 2;
+            } else if (k == STRETCH) {
+                itsPrice += itsFigure;
+                itsReach += 2;
+                itsWorth += itsFigure;
+            } else if (k == SHINY) {
+                itsPrice -= 1;
+                itsLasting -= 15;
+                itsWorth /= 2;
+            } else if (k == VELVET) {
+                itsPrice += 3;
+                itsHours += itsFigure;
+                itsWorth += 3;
             }
-        }
-    }
-
-    private static class Wide extends Suit {
-        Wide(int figure) {
-            super(figure);
-        }
-
-        int number() {
-            return 2;
+            number = k;
+            figure = itsFigure;
+            price = itsPrice;
+            reach = itsReach;
+            hours = itsHours;
+            lasting = itsLasting;
+            worth = itsWorth;
         }
 
-        int price() {
-            return super.price() - 2;
+        private static boolean isBlack(int k) {
+            return k == BLACK || k == SILK || k == VELVET;
         }
 
-        int reach() {
-            return super.reach() + 1;
+        private static boolean isMixed(int k) {
+            return k == MIXED || k == SHINY;
         }
 
-        int worth() {
-            return super.worth() - 2;
-        }
-    }
-
-    private static class Mixed extends Suit {
-        Mixed(int figure) {
-            super(figure);
-        }
-
-        int number() {
-            return 3;
-        }
-
-        int price() {
-            return super.price() / 2;
-        }
-
-        int hours() {
-            return super.hours() - 1;
-        }
-
-        int worth() {
-            return super.worth() + 1;
-        }
-
+        /** Throws the FAILURE, if there is one. */
         void fail() {
-            // Mixed ones have no FAILURE.
-        }
-    }
-
-    private static final class Silk extends Black {
-        Silk(int figure) {
-            super(figure);
-        }
-
-        int number() {
-            return 4;
-        }
-
-        int price() {
-            return super.price() * 2;
-        }
-
-        int reach() {
-            return 0;
-        }
-
-        int hours() {
-            return super.hours() * 2;
-        }
-
-        int lasting() {
-            return super.lasting() / 2;
-        }
-
-        int worth() {
-            return super.worth() * 2;
-        }
-
-        void fail() {
-            if (figure > 0) {
+            if (figure == 0 || isMixed(number)) {
+                return;
+            }
+            if (number == SILK) {
                 throw new UnsupportedOperationException("a silk one has failed");
             }
-        }
-    }
-
-    private static final class Stretch extends Wide {
-        Stretch(int figure) {
-            super(figure);
-        }
-
-        int number() {
-            return 5;
-        }
-
-        int price() {
-            return super.price() + figure;
-        }
-
-        int reach() {
-            return super.reach() + 2;
-        }
-
-        int worth() {
-            return super.worth() + figure;
-        }
-    }
-
-    private static final class Shiny extends Mixed {
-        Shiny(int figure) {
-            super(figure);
-        }
-
-        int number() {
-            return 6;
-        }
-
-        int price() {
-            return super.price() - 1;
-        }
-
-        int lasting() {
-            return super.lasting() - 15;
-        }
-
-        int worth() {
-            return super.worth() / 2;
-        }
-    }
-
-    private static final class Velvet extends Black {
-        Velvet(int figure) {
-            super(figure);
-        }
-
-        int number() {
-            return 7;
-        }
-
-        int price() {
-            return super.price() + 3;
-        }
-
-        int hours() {
-            return super.hours() + figure;
-        }
-
-        int worth() {
-            return super.worth() + 3;
+            if (isBlack(number)) {
+                throw new IllegalStateException("a black one has failed");
+            }
+            throw new IllegalArgumentException("a suit has failed");
         }
     }
 
@@ -1122,7 +981,7 @@ public final class BackByNoonOnMonday {
     private static final class Shelf {
         final int[] cells = new int[ROW_ROOM];
         int holds = NOTHING;
-        Suit kind = new Suit(0);
+        Suit kind = new Suit(SUIT, 0);
         int sort = BYTES;
         int length = 0;
 
@@ -1191,7 +1050,7 @@ public final class BackByNoonOnMonday {
         final int[] late = new int[MOST_BOOKINGS];
         final int[] absent = new int[MOST_BOOKINGS];
         final int[] has = new int[MOST_BOOKINGS];
-        final Suit anyKind = new Suit(0);
+        final Suit anyKind = new Suit(SUIT, 0);
         int suits = 0;
         int bookings = 0;
         int pence = 0;
@@ -1270,12 +1129,12 @@ public final class BackByNoonOnMonday {
             set(state, s, OUT);
             set(has, b, s);
             set(worn, s, at(worn, s) < MOST_WORN ? at(worn, s) + 1 : MOST_WORN);
-            pence += kindOf(s).price();
+            pence += kindOf(s).price;
             return pence;
         }
 
         boolean canHire(int s, int b, int penceThen) {
-            return at(state, s) == IN && isRightFor(s, b) && penceThen + kindOf(s).price() <= MOST_PENCE;
+            return at(state, s) == IN && isRightFor(s, b) && penceThen + kindOf(s).price <= MOST_PENCE;
         }
 
         int giveBack(int s) {
@@ -1295,7 +1154,7 @@ public final class BackByNoonOnMonday {
             if (!isSuit(s)) {
                 return NO_SUCH;
             }
-            int then = hour + kindOf(s).hours();
+            int then = hour + kindOf(s).hours;
             if (at(state, s) != DIRTY || then > MOST_HOUR) {
                 return NOT_SO;
             }
@@ -1319,7 +1178,7 @@ public final class BackByNoonOnMonday {
         }
 
         boolean reaches(Suit kind, int itsSize, int wanted) {
-            return Math.abs(itsSize - wanted) <= kind.reach();
+            return itsSize - wanted <= kind.reach && wanted - itsSize <= kind.reach;
         }
 
         int suitsThatAre(int wanted) {
@@ -1384,7 +1243,7 @@ public final class BackByNoonOnMonday {
         int hoursOf(int bits) {
             int hours = 0;
             for (int s = 0; s < suits; s++) {
-                hours += hasBit(bits, s) ? kindOf(s).hours() : 0;
+                hours += hasBit(bits, s) ? kindOf(s).hours : 0;
             }
             return hours;
         }
@@ -1420,7 +1279,7 @@ public final class BackByNoonOnMonday {
                 int size = at(shop.suitSize, s);
                 set(usual, s, hasBit(in, s) ? shop.takers(kind, size, 0) : 0);
                 set(grown, s, hasBit(in, s) ? shop.takers(kind, size, 1) : 0);
-                set(prices, s, kind.price());
+                set(prices, s, kind.price);
             }
             fill(usual, takers);
         }
@@ -1429,7 +1288,7 @@ public final class BackByNoonOnMonday {
         void lend(Shop shop, Suit kind, int size) {
             Suit lent = kind == null ? shop.anyKind : kind;
             set(takers, EXTRA, shop.takers(lent, size, 0));
-            set(prices, EXTRA, lent.price());
+            set(prices, EXTRA, lent.price);
         }
 
         /** As if the bookings of these bits were grown. */
@@ -1447,7 +1306,7 @@ public final class BackByNoonOnMonday {
                 int k = choice >> 3 * (g - 1) & KINDS - 1;
                 int served = 0;
                 for (int s = 0; s < takers.length; s++) {
-                    if (shop.kindOf(s).number() != k) {
+                    if (shop.kindOf(s).number != k) {
                         takers[s] &= ~members;
                     }
                     served |= at(takers, s) & members;

@@ -68,6 +68,14 @@ public final class WhomWhichTest {
         Check.due("chain 0", x.served(0), 1);
         Check.due("chain 1", x.served(1), 2);
         Check.due("chain 2", x.served(2), 0);
+        // The last suit can only go to the first booking: all six others move on.
+        x = Check.shopOf("s000200;s000400;s000600;s000800;s001000;s001200;s000000;");
+        Check.told(x, "b010000;b030000;b050000;b070000;b090000;b110000;b130000;");
+        Check.due("all seven", x.served(-1), 7);
+        Check.due("the first one's", x.served(0), 6);
+        Check.due("the last one's", x.served(6), 5);
+        Check.due("all earn", x.earned(), 70);
+        Check.due("none may be done without", x.refuse(), -4);
     }
 
     private static void onlyWhatIsIn() {
