@@ -16,6 +16,16 @@ final class Check {
         }
     }
 
+    static void same(String what, String got, String want) {
+        asked++;
+        if (!got.equals(want)) {
+            wrong++;
+            if (wrong <= 40) {
+                System.out.println(what + ":\n" + got + "\nfrom:\n" + want);
+            }
+        }
+    }
+
     static boolean anyWrong() {
         return wrong > 0;
     }
@@ -57,6 +67,19 @@ final class Check {
             statements += text.charAt(i) == ';' ? 1 : 0;
         }
         due("shop of " + text, told(x, text), statements);
+        return x;
+    }
+
+    /** SUITS of these KINDS, FIGURE 0, SIZE 10, all DIRTY; HOUR is 0. */
+    static BackByNoonOnMonday dirty(int... kinds) {
+        BackByNoonOnMonday x = new BackByNoonOnMonday();
+        x.books(10, 0, 0);
+        for (int s = 0; s < kinds.length; s++) {
+            x.keep(0, 1, kinds[s], 0);
+            due("buys", x.buys(0, 10), s);
+            x.hires(s, 0);
+            due("returns", x.returns(s), 0);
+        }
         return x;
     }
 

@@ -12,26 +12,13 @@ public final class CleaningTest {
         Check.end();
     }
 
-    /** Suits of the kinds, all of size 10, all DIRTY. */
-    private static BackByNoonOnMonday dirty(int... kinds) {
-        BackByNoonOnMonday x = new BackByNoonOnMonday();
-        x.books(10, 0, 0);
-        for (int s = 0; s < kinds.length; s++) {
-            x.keep(0, 1, kinds[s], 0);
-            Check.due("buys", x.buys(0, 10), s);
-            x.hires(s, 0);
-            Check.due("returns", x.returns(s), 0);
-        }
-        return x;
-    }
-
     private static int ready(BackByNoonOnMonday x, int what, int... hours) {
         Check.numbers(x, 6, 1, hours);
         return x.ready(6, what);
     }
 
     private static void readyRefusals() {
-        BackByNoonOnMonday x = dirty(0, 1);
+        BackByNoonOnMonday x = Check.dirty(0, 1);
         Check.due("shelf -1", x.ready(-1, 0), -1);
         Check.due("shelf 8", x.ready(8, 0), -1);
         Check.due("what 3 ahead of -11", x.ready(1, 3), -1);
@@ -51,7 +38,7 @@ public final class CleaningTest {
 
     private static void ready() {
         // CLEANS: 3, 4, 2, 8.
-        BackByNoonOnMonday x = dirty(0, 1, 3, 4);
+        BackByNoonOnMonday x = Check.dirty(0, 1, 3, 4);
         Check.due("all in time", ready(x, 0, 9, 5, 99, 17), 4);
         Check.due("by hours told", ready(x, 1, 9, 5, 99, 17), 1);
         Check.due("then numbers", ready(x, 1, 17, 17, 17, 17), 0);
@@ -77,7 +64,7 @@ public final class CleaningTest {
     }
 
     private static void readyLeastNumbers() {
-        BackByNoonOnMonday x = dirty(0, 1);
+        BackByNoonOnMonday x = Check.dirty(0, 1);
         Check.numbers(x, 1, 0, -128, 4);
         Check.due("bytes", x.ready(1, 0), 1);
         Check.due("bytes, first", x.ready(1, 1), 1);
