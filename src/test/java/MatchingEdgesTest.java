@@ -13,6 +13,7 @@ public final class MatchingEdgesTest {
         servedOfOneThatHas();
         servedFull();
         servedInEachOrder();
+        servedAtOnce();
         leftOver();
         leftOverOfTheFirst();
         earnedAtOnce();
@@ -240,6 +241,16 @@ public final class MatchingEdgesTest {
             Check.due("refuse, order " + order, x.refuse(), -4);
             Check.due("sell, order " + order, x.sell(), 0);
         }
+    }
+
+    /** "at once": for the second SUIT the first moves on, for the third it does not a second time. */
+    private static void servedAtOnce() {
+        BackByNoonOnMonday x = Check.shopOf("s591000;s000900;s000900;b100000;b130000;b140000;");
+        Check.due("two of three", x.served(-1), 2);
+        Check.due("one of 9 for the first", x.served(0), 1);
+        Check.due("the other moves on", x.served(1), 0);
+        Check.due("none is left for the third", x.served(2), 9);
+        Check.due("earned by the two", x.earned(), 36);
     }
 
     /** The place of the n-th bit that is set, 0 the first. */
